@@ -397,7 +397,7 @@ public final class Assetmerge {
         }
     }
 
-    // ---- things found by joining; each of these but the first three wants joining.findGroups ahead ----
+    // ---- things found by joining anew ----
 
     private int findThing(int record) {
         joining.findGroups(inventory);
@@ -424,6 +424,8 @@ public final class Assetmerge {
         }
         return NONE;
     }
+
+    // ---- things as they were found last: joining.findGroups goes ahead of each of these and of those below ----
 
     private boolean isThing(int home) {
         return isMember(home, home);
@@ -476,7 +478,7 @@ public final class Assetmerge {
         return false;
     }
 
-    // ---- facts; the things are found ahead ----
+    // ---- facts ----
 
     private boolean tellsFact(int record, int home, int field) {
         return isMember(record, home) && inventory.facts[field][record] != NONE;
@@ -526,7 +528,7 @@ public final class Assetmerge {
         return false;
     }
 
-    // ---- ghosts; the things are found ahead ----
+    // ---- ghosts ----
 
     private int findLastSeen(int home) {
         int last = 0;

@@ -235,6 +235,8 @@ public final class FactsTest {
     }
 
     private static void nextGhost() {
+        Checks.due("33 nextGhost() as the first call", Worlds.mixed().nextGhost(), 31);
+        Checks.due("34 nextGhostByDays() as the first call", Worlds.mixed().nextGhostByDays(), 31);
         Assetmerge x = Worlds.mixed();
         nextDue("mixed", x, 31);
         x.pass(10);

@@ -201,6 +201,8 @@ public final class ThingsTest {
             Checks.due("18 member(5, " + index + ")", x.member(5, index), due[index]);
         }
         Checks.due("18 member(2, 0)", x.member(2, 0), 2);
+        Checks.due("18 member(1, 0) of the thing 0", Worlds.mixed().member(1, 0), 0);
+        Checks.due("18 member(0, 1) of the thing 0", Worlds.mixed().member(0, 1), 1);
         for (int record : NO_RECORDS) {
             Checks.refused("18 member(" + record + ", 0)", INDEX, Worlds::mixed, y -> y.member(record, 0));
             Checks.refused("18 member(" + record + ", 9)", INDEX, Worlds::mixed, y -> y.member(record, 9));
