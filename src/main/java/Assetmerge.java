@@ -596,7 +596,8 @@ public final class Assetmerge {
         }
 
         boolean holds(int record) {
-            return record >= 0 && record < recordCount && isIn(record, live);
+            // The bit is looked at in this place, not by isIn: calls would go more than seven deep.
+            return record >= 0 && record < recordCount && (live >> record & 1) != 0;
         }
 
         static boolean isIn(int record, int members) {

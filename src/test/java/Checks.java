@@ -29,9 +29,22 @@ final class Checks {
         }
     }
 
+    /** The call on the world throws nothing. */
+    static void answered(String call, Supplier<Assetmerge> world, Consumer<Assetmerge> rightCall) {
+        due(call, thrownBy(world.get(), rightCall), "nothing");
+    }
+
+    static int count() {
+        return right + wrong;
+    }
+
     private static String thrownBy(Assetmerge world, Consumer<Assetmerge> call) {
+        return thrown(() -> call.accept(world));
+    }
+
+    static String thrown(Runnable call) {
         try {
-            call.accept(world);
+            call.run();
             return "nothing";
         } catch (RuntimeException e) {
             return e.getClass().getSimpleName();

@@ -31,19 +31,8 @@ public final class FactsTest {
         Checks.due("28 factFrom(" + record + ", " + field + "), " + what, x.factFrom(record, field), from);
     }
 
-    /** A record of each source, all of one thing; each record's fact of the field 0 is its number plus 10. */
-    private static Assetmerge oneThing(int... trusts) {
-        Assetmerge x = new Assetmerge();
-        for (int i = 0; i < trusts.length; i++) {
-            x.addSource(trusts[i]);
-            x.addRecord(i, 1, -1, -1);
-            x.setFact(i, 0, i + 10);
-        }
-        return x;
-    }
-
     private static void weight() {
-        Assetmerge x = oneThing(1, 9);
+        Assetmerge x = Worlds.oneThing(1, 9);
         int[] waits = {9, 1, 9, 1, 80, 99};
         int[] lost = {0, 1, 1, 2, 10, 19};
         for (int i = 0; i < waits.length; i++) {
@@ -61,20 +50,20 @@ public final class FactsTest {
     }
 
     private static void weightComesFirst() {
-        factDue("the greatest weight in front", oneThing(9, 5, 6), 2, 0, 0, 10);
-        factDue("the greatest weight in the middle", oneThing(5, 9, 6), 0, 0, 1, 11);
-        factDue("the greatest weight behind", oneThing(5, 6, 9), 0, 0, 2, 12);
-        Assetmerge x = oneThing(6, 5);
+        factDue("the greatest weight in front", Worlds.oneThing(9, 5, 6), 2, 0, 0, 10);
+        factDue("the greatest weight in the middle", Worlds.oneThing(5, 9, 6), 0, 0, 1, 11);
+        factDue("the greatest weight behind", Worlds.oneThing(5, 6, 9), 0, 0, 2, 12);
+        Assetmerge x = Worlds.oneThing(6, 5);
         x.pass(19);
         x.see(1);
         factDue("the weights 5 and 5", x, 0, 0, 1, 11);
-        x = oneThing(7, 5);
+        x = Worlds.oneThing(7, 5);
         x.pass(19);
         x.see(1);
         factDue("more weight against a newer day", x, 1, 0, 0, 10);
         x.pass(1);
         factDue("the weights 5 and 5 again", x, 1, 0, 1, 11);
-        x = oneThing(1, 2);
+        x = Worlds.oneThing(1, 2);
         x.pass(30);
         factDue("weights below 0", x, 0, 0, 1, 11);
         x.see(0);
@@ -82,7 +71,7 @@ public final class FactsTest {
     }
 
     private static void dayComesNext() {
-        Assetmerge x = oneThing(5, 5, 5);
+        Assetmerge x = Worlds.oneThing(5, 5, 5);
         x.pass(1);
         x.see(1);
         factDue("the newest day in the middle", x, 0, 0, 1, 11);
@@ -95,7 +84,7 @@ public final class FactsTest {
     }
 
     private static void numberComesLast() {
-        Assetmerge x = oneThing(5, 5, 5, 5);
+        Assetmerge x = Worlds.oneThing(5, 5, 5, 5);
         factDue("the highest number", x, 0, 0, 3, 13);
         x.drop(3);
         factDue("the highest number that is left", x, 0, 0, 2, 12);
@@ -107,7 +96,7 @@ public final class FactsTest {
     }
 
     private static void onlyTheThingTells() {
-        Assetmerge x = oneThing(5, 9, 6);
+        Assetmerge x = Worlds.oneThing(5, 9, 6);
         x.setKey(1, 0, 2);
         factDue("the best record in another thing", x, 0, 0, 2, 12);
         factDue("the best record by itself", x, 1, 0, 1, 11);
@@ -116,7 +105,7 @@ public final class FactsTest {
     }
 
     private static void factsOfEachField() {
-        Assetmerge x = oneThing(5, 6, 7);
+        Assetmerge x = Worlds.oneThing(5, 6, 7);
         x.setFact(0, 1, 999);
         x.setFact(1, 2, 500);
         factDue("field 0", x, 0, 0, 2, 12);
@@ -151,7 +140,7 @@ public final class FactsTest {
     }
 
     private static void agreement() {
-        Assetmerge x = oneThing(5, 6, 7, 8);
+        Assetmerge x = Worlds.oneThing(5, 6, 7, 8);
         Checks.due("29 agreement(0, 0), one of four", x.agreement(0, 0), 1.0f / 4.0f);
         x.setFact(0, 0, 13);
         x.drop(1);

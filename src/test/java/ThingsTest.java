@@ -344,10 +344,7 @@ public final class ThingsTest {
         Checks.due("37 mark(), mixed", Worlds.mixed().mark(), (4L * 1 + 1) + (1L * 2 + 1) + (4L * 9 + 1));
         Checks.due("37 mark(), one record", Worlds.withKeys(keys(1, 1, 1)).mark(), 1L);
         Checks.due("37 mark(), 23 things", Worlds.full().mark(), 253L + 23L);
-        Assetmerge all = Worlds.withSources(1);
-        for (int i = 0; i < 24; i++) {
-            all.addRecord(0, 7, -1, -1);
-        }
+        Assetmerge all = Worlds.oneOf24();
         Checks.due("37 mark(), one thing of 24", all.mark(), 576L * 276L + 1L);
         all.drop(10);
         Checks.due("37 mark(), one thing of 23", all.mark(), 529L * 266L + 1L);

@@ -73,4 +73,71 @@ final class Worlds {
         x.drop(12);
         return x;
     }
+
+    /**
+     * 4 sources, 24 records and 11 pairs, with room for one pair more; each record has a fact for each field, and the
+     * records 0 and 23 are together by their strong key.
+     */
+    static Assetmerge brimful() {
+        Assetmerge x = new Assetmerge();
+        for (int trust : new int[] {1, 9, 5, 5}) {
+            x.addSource(trust);
+        }
+        for (int i = 0; i < 24; i++) {
+            x.addRecord(i % 4, i == 0 || i == 23 ? 99 : -1, i, -1);
+            for (int field = 0; field < 3; field++) {
+                x.setFact(i, field, 40 * i + field);
+            }
+        }
+        for (int i = 0; i < 10; i++) {
+            x.forbid(i, 12);
+        }
+        x.forbid(23, 12);
+        return x;
+    }
+
+    /** The same, with the 12th pair. */
+    static Assetmerge overfull() {
+        Assetmerge x = brimful();
+        x.forbid(10, 12);
+        return x;
+    }
+
+    /** 24 records, all of them dropped. */
+    static Assetmerge emptied() {
+        Assetmerge x = full();
+        for (int i = 0; i < 23; i++) {
+            x.drop(i);
+        }
+        return x;
+    }
+
+    /** One record that was seen on the day 0, on a later day. */
+    static Assetmerge onDay(int day) {
+        Assetmerge x = withKeys(keys(1, 2, 3));
+        while (x.today() < day) {
+            x.pass(Math.min(99, day - x.today()));
+        }
+        return x;
+    }
+
+    /** A record for each trust, each of a source of its own, all of one thing; their facts are 10, 11 and so on. */
+    static Assetmerge oneThing(int... trusts) {
+        Assetmerge x = new Assetmerge();
+        for (int i = 0; i < trusts.length; i++) {
+            x.addSource(trusts[i]);
+            x.addRecord(i, 1, -1, -1);
+            x.setFact(i, 0, i + 10);
+        }
+        return x;
+    }
+
+    /** 24 records of one thing. */
+    static Assetmerge oneOf24() {
+        Assetmerge x = withSources(1);
+        for (int i = 0; i < 24; i++) {
+            x.addRecord(0, 7, -1, -1);
+        }
+        return x;
+    }
 }
